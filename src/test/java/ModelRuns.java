@@ -1009,13 +1009,16 @@ public final class ModelRuns {
             return some(60) == 0 ? some(5) - 2 : some(10) < 6 ? 0 : 1;
         }
 
-        int name(int kind) {
-            if (some(30) == 0) {
+        /** Mostly a late one of the kind that is there in the store; at times any, or none at all. */
+        int name(int kind, int store) {
+            if (some(60) == 0) {
                 return some(9000) - 2;
             }
+            State seen = store < 0 || store > 1 || some(10) == 0 ? null : model.depots[store].seen();
             List<Integer> names = new ArrayList<>();
             for (Map.Entry<Integer, Obj> e : model.objs.entrySet()) {
-                if (kind < 0 || e.getValue().kind == kind || some(40) == 0) {
+                boolean isThere = seen == null || seen.there(e.getKey());
+                if (isThere && (kind < 0 || e.getValue().kind == kind || some(80) == 0)) {
                     names.add(e.getKey());
                 }
             }
@@ -1026,12 +1029,27 @@ public final class ModelRuns {
             return names.get(names.size() - 1 - back);
         }
 
+        int name(int kind) {
+            return name(kind, -1);
+        }
+
         int orNone(int name, int odds) {
             return some(odds) == 0 ? -1 : name;
         }
 
         int ref() {
             return some(50) == 0 ? some(9) - 2 : some(3);
+        }
+
+        /** Mostly a reference of the store that is not NONE. */
+        int refOf(int store) {
+            List<Integer> set = new ArrayList<>();
+            for (int ref = 0; ref < 6 && store >= 0 && store < 2; ref++) {
+                if (model.depots[store].seen().refs[ref] != null) {
+                    set.add(ref);
+                }
+            }
+            return set.isEmpty() || some(10) == 0 ? ref() : set.get(some(set.size()));
         }
 
         int mask() {
@@ -1087,9 +1105,15 @@ public final class ModelRuns {
         }
 
         void content() {
+            content(store());
+        }
+
+        void content(int store) {
             int[] body;
-            if (bodies.isEmpty() || some(4) == 0) {
-                body = new int[some(6) == 0 ? some(3) : 3 + some(10)];
+            if (kindOfRun == 1 || kindOfRun == 2) {
+                body = new int[] {some(100), some(100)};
+            } else if (bodies.isEmpty() || some(4) == 0) {
+                body = new int[some(6) == 0 ? some(3) : 3 + some(6)];
                 for (int k = 0; k < body.length; k++) {
                     body[k] = some(9);
                 }
@@ -1107,29 +1131,29 @@ public final class ModelRuns {
             }
             bodies.add(body);
             draft(body);
-            call("content", store());
+            call("content", store);
         }
 
-        void folder() {
+        int folder(int store) {
             int entries = some(5) == 0 ? some(7) : 1 + some(3);
             int[] body = new int[2 * entries];
             int label = some(2);
             for (int k = 0; k < entries; k++) {
                 body[2 * k] = some(60) == 0 ? some(12) : Math.min(label, some(40) == 0 ? 10 : 9);
-                body[2 * k + 1] = Math.max(0, name(some(4) == 0 ? 1 : 0));
+                body[2 * k + 1] = Math.max(0, name(some(4) == 0 ? 1 : 0, store));
                 label += 1 + (some(4) == 0 ? 1 : 0);
             }
             if (some(40) == 0) {
                 body = Arrays.copyOf(body, Math.max(0, body.length - 1));
             }
             draft(body);
-            call("folder", store());
+            return call("folder", store);
         }
 
-        void version() {
-            int one = orNone(name(2), 6);
-            call("version", store(), name(1), some(40) == 0 ? some(3) * 10000 - 10000 : some(6), one,
-                    some(3) == 0 ? name(2) : -1);
+        int version(int store) {
+            int one = orNone(name(2, store), 6);
+            return call("version", store, name(1, store), some(40) == 0 ? some(3) * 10000 - 10000 : some(6), one,
+                    some(3) == 0 && (one != -1 || some(9) == 0) ? name(2, store) : -1);
         }
 
         void transaction() {
@@ -1139,18 +1163,22 @@ public final class ModelRuns {
                 int ref = ref();
                 boolean is = store >= 0 && store < 2 && ref >= 0 && ref < 6;
                 int old = is && some(8) != 0 ? Model.unboxed(model.depots[store].seen().refs[ref]) : orNone(name(-1), 3);
-                call("expect", store, ref, old, orNone(name(some(5) == 0 ? 3 : some(30) == 0 ? -1 : 2), 12));
+                call("expect", store, ref, old, orNone(name(some(5) == 0 ? 3 : some(30) == 0 ? -1 : 2, store), 12));
             }
             call("commit", store);
         }
 
         /** A few objects and a commit in one store, so that there is something to send. */
         void grow() {
-            int store = some(2);
-            content();
-            draft(new int[] {some(3), Math.max(0, name(0)), 5, Math.max(0, name(0))});
-            int folder = call("folder", store);
-            int version = call("version", store, folder, some(9), orNone(name(2), 5), some(4) == 0 ? name(2) : -1);
+            int store = some(3) == 0 ? 1 : 0;
+            for (int k = some(3); k > 0; k--) {
+                content(store);
+            }
+            folder(store);
+            int version = version(store);
+            if (some(5) == 0) {
+                version = call("tag", store, version);
+            }
             int ref = some(3);
             if (version != -1) {
                 call("expect", store, ref, Model.unboxed(model.depots[store].seen().refs[ref]), version);
@@ -1162,23 +1190,27 @@ public final class ModelRuns {
             int roll = some(100);
             if (kindOfRun == 1 && some(3) == 0) {
                 content();
-            } else if (kindOfRun == 2 && some(3) == 0) {
-                call("pack", some(2), some(9), some(9));
+            } else if (kindOfRun == 2 && some(2) == 0) {
+                content(0);
+                call("pack", some(20) == 0 ? 1 : 0, some(9), some(9));
             } else if (kindOfRun == 3 && some(4) == 0) {
-                call("replace", store(), name(2), orNone(name(2), 6));
+                int store = store();
+                call("replace", store, name(2, store), orNone(name(2, store), 6));
             } else if (kindOfRun == 4 && some(4) == 0) {
-                call("fetch", some(2), ref(), some(4), some(3));
-            } else if (roll < 8) {
+                int from = some(2);
+                call("fetch", from, refOf(from), some(4), some(2));
+            } else if (roll < 6) {
                 content();
-            } else if (roll < 14) {
-                folder();
-            } else if (roll < 22) {
-                version();
-            } else if (roll < 24) {
-                call("tag", store(), name(2));
-            } else if (roll < 34) {
+            } else if (roll < 10) {
+                folder(store());
+            } else if (roll < 16) {
+                version(store());
+            } else if (roll < 18) {
+                int store = store();
+                call("tag", store, name(2, store));
+            } else if (roll < 32) {
                 grow();
-            } else if (roll < 40) {
+            } else if (roll < 36) {
                 transaction();
             } else {
                 deal(some(60));
@@ -1186,12 +1218,13 @@ public final class ModelRuns {
         }
 
         void deal(int roll) {
+            int store = store();
             if (roll < 6) {
-                call("fetch", store(), ref(), some(20) == 0 ? some(25) - 2 : some(2) * some(4), some(3) == 0 ? 1 : 0);
+                call("fetch", store, refOf(store), some(20) == 0 ? some(25) - 2 : some(2) * some(4), some(3) == 0 ? 1 : 0);
             } else if (roll < 10) {
-                call("push", store(), ref());
+                call("push", store, refOf(store));
             } else if (roll < 14) {
-                call("spoil", store(), name(-1));
+                call("spoil", store, name(-1, store));
             } else if (roll < 17) {
                 call("pack", store(), some(20) == 0 ? some(12) - 2 : some(9), some(20) == 0 ? some(12) - 2 : some(6));
             } else if (roll < 20) {
@@ -1203,9 +1236,9 @@ public final class ModelRuns {
             } else if (roll < 25) {
                 call("sync", store());
             } else if (roll < 27) {
-                call("replace", store(), name(2), orNone(name(2), 4));
+                call("replace", store, name(2, store), orNone(name(2, store), 4));
             } else if (roll < 29) {
-                call("choose", store(), name(2));
+                call("choose", store, name(2, store));
             } else if (roll < 30) {
                 call("pin", store(), name(-1));
             } else if (roll < 31) {
