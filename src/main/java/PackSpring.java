@@ -99,7 +99,8 @@ public final class PackSpring {
         if (book.kindOf(root) != FOLDER || date < 0 || date > GREATEST_NUMBER) {
             throw new IllegalArgumentException("no FOLDER, or date out of its range");
         }
-        if (!isVersionOrNone(mother) || !isVersionOrNone(father) || (father != NONE && (mother == NONE || mother == father))) {
+        if (!isVersionOrNone(mother) || !isVersionOrNone(father)
+                || (father != NONE && (mother == NONE || mother == father))) {
             throw new IllegalArgumentException("no such parents");
         }
         if (!into.disk.isThere(root) || (mother != NONE && !into.disk.isThere(mother))
@@ -697,7 +698,7 @@ public final class PackSpring {
         }
 
         int numberOf(int at, int place) {
-            return place >= 0 && place < lengthOf(at) ? numbers[at * MOST_NUMBERS + place] : NONE;
+            return isTold(at) && place >= 0 && place < lengths[at] ? numbers[at * MOST_NUMBERS + place] : NONE;
         }
 
         /** What an object names, always told ahead of it: of a VERSION first its folder, then its parents. */
@@ -845,8 +846,9 @@ public final class PackSpring {
             return place >= 0 && place < count ? objects[place] : NONE;
         }
 
+        /** The depth of an entry; -1 of none, so that one more is 0. */
         int depthOf(int place) {
-            return place >= 0 && place < count ? depths[place] : NONE;
+            return place >= 0 && place < count ? depths[place] : -1;
         }
 
         /** Adds an entry, with the place of its base or NONE; answers its place. */
@@ -957,7 +959,7 @@ public final class PackSpring {
 
         void addDeed(int act, int thing) {
             if (deeds >= MOST_DEEDS) {
-                keepAll();
+                keep(ALL_DEEDS);
             }
             acts[deeds] = act;
             things[deeds] = thing;

@@ -1194,8 +1194,7 @@ public final class ModelRuns {
                 content(0);
                 call("pack", some(20) == 0 ? 1 : 0, some(9), some(9));
             } else if (kindOfRun == 3 && some(4) == 0) {
-                int store = store();
-                call("replace", store, name(2, store), orNone(name(2, store), 6));
+                replaceAndWalk();
             } else if (kindOfRun == 4 && some(4) == 0) {
                 int from = some(2);
                 call("fetch", from, refOf(from), some(4), some(2));
@@ -1255,6 +1254,18 @@ public final class ModelRuns {
             } else {
                 probe(some(23));
             }
+        }
+
+        /** What is shallow and what is seen as another one meet in walks. */
+        void replaceAndWalk() {
+            int store = store();
+            if (some(3) == 0) {
+                call("fetch", some(2), ref(), 1 + some(3), some(3) == 0 ? 1 : 0);
+            }
+            int name = name(2, store);
+            call("replace", store, name, orNone(name(2, store), 6));
+            call("walk", store, some(2) == 0 ? name : name(2, store), orNone(name(2, store), 2));
+            call("walkAt", some(4));
         }
 
         void walk() {
