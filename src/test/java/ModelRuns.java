@@ -998,7 +998,33 @@ public final class ModelRuns {
             if (isFine) {
                 probeAll();
             }
+            for (int k = 0; k < 300 && isFine; k++) {
+                wild();
+            }
             return isFine;
+        }
+
+        /** What is answered late and to any arguments is free, but that the machine itself throws is not. */
+        void wild() {
+            List<Integer> names = new ArrayList<>(model.objs.keySet());
+            int[] a = new int[5];
+            for (int k = 0; k < a.length; k++) {
+                int roll = some(12);
+                a[k] = roll == 0 ? Integer.MIN_VALUE + some(2) : roll == 1 ? Integer.MAX_VALUE - some(2)
+                        : roll < 4 ? random.nextInt() : roll < 7 && !names.isEmpty() ? names.get(some(names.size()))
+                        : roll == 7 ? some(20000) - 1000 : some(12) - 2;
+                a[k] = k == 0 && some(3) == 0 ? some(2) : a[k];
+            }
+            String call = CALLS[some(CALLS.length)];
+            try {
+                real(real, call, a);
+            } catch (RuntimeException e) {
+                isFine = e.getClass() == IndexOutOfBoundsException.class || e.getClass() == IllegalStateException.class
+                        || e.getClass() == IllegalArgumentException.class;
+                if (!isFine) {
+                    System.out.println("seed " + seed + ": " + call + Arrays.toString(a) + " threw " + e);
+                }
+            }
         }
 
         int some(int bound) {

@@ -16,6 +16,10 @@ public final class PromiseTests {
         packing();
         sending();
         spoiling();
+        diskEdges();
+        walkEdges();
+        sweepEdges();
+        sendEdges();
         System.out.println(wrong == 0 ? checks + " answers are as promised" : wrong + " of " + checks + " are not");
         if (wrong != 0) {
             System.exit(1);
@@ -858,5 +862,196 @@ public final class PromiseTests {
         same(42, y.missing(1), 1);
         same(44, y.mend(1), 1);
         same(42, y.missing(1), 0);
+    }
+
+    // ---- what seldom meets
+
+    private static void diskEdges() {
+        PackSpring x = new PackSpring();
+        int a = content(x, 0, 1);
+        x.sync(0);
+        int b = content(x, 0, 2);
+        same(16, x.pack(0, 8, 8), 0);
+        same(16, x.crash(0, 2), 1);
+        same(16, x.where(0, a) * 10 + x.where(0, b), 32);
+        x.expect(0, 0, NONE, NONE);
+        x.crash(0, 0);
+        same(16, x.expect(0, 0, NONE, NONE), 1);
+        keptBelow();
+        PackSpring y = new PackSpring();
+        int c = content(y, 0, 1);
+        int d = content(y, 0, 2);
+        y.spoil(0, c);
+        same(31, y.pack(0, 0, 0), 0);
+        same(33, y.entries(0, 0), 1);
+        same(13, y.where(0, c) * 10 + y.where(0, d), 13);
+        y.sync(0);
+        for (int k = 1; k < 20; k++) {
+            content(y, 0, 50, k);
+            same(31, y.pack(0, 0, 0), k);
+            y.crash(0, 1);
+        }
+        same(32, y.packs(0), 1);
+        content(y, 0, 51);
+        badState(31, () -> y.pack(0, 0, 0));
+    }
+
+    /** A copy that is kept below an UNLINK and a new WRITE is not spoiled with the new one. */
+    private static void keptBelow() {
+        PackSpring x = new PackSpring();
+        int a = content(x, 0, 1);
+        x.sync(0);
+        x.tick(10);
+        same(37, x.sweep(0), 1);
+        same(16, content(x, 0, 1), a);
+        same(16, x.unsynced(0), 2);
+        same(41, x.spoil(0, a), NONE);
+        badState(12, () -> x.read(0, a, 0));
+        same(16, x.crash(0, 0), 2);
+        same(12, x.read(0, a, 0), 1);
+    }
+
+    private static void walkEdges() {
+        PackSpring x = new PackSpring();
+        int a = version(x, 0, 1, NONE, NONE);
+        int b = version(x, 0, 2, a, NONE);
+        int c = version(x, 0, 3, a, NONE);
+        int late = version(x, 0, 9, a, NONE);
+        int top = version(x, 0, 5, b, c);
+        same(25, x.walk(0, top, a), 3);
+        same(26, x.walkAt(1), c);
+        same(24, x.replace(0, b, late), NONE);
+        same(25, x.walk(0, top, a), 3);
+        same(26, x.walkAt(1), b);
+        int early = x.version(0, x.part(a, 0), 0, a, NONE);
+        same(24, x.replace(0, b, NONE), late);
+        same(24, x.replace(0, c, early), NONE);
+        same(25, x.walk(0, top, a), 3);
+        same(26, x.walkAt(1), b);
+        same(24, x.replace(0, c, NONE), early);
+        same(24, x.replace(0, b, late), NONE);
+        int deeds = x.unsynced(0);
+        same(24, x.replace(0, b, late), late);
+        same(24, x.replace(0, c, NONE), NONE);
+        same(24, x.unsynced(0), deeds + 2);
+        same(24, x.crash(0, -1 >>> 2), 0);
+        same(24, x.replace(0, b, NONE), late);
+        same(24, x.crash(0, 0), 1);
+        same(24, x.replace(0, b, NONE), late);
+        moveTo(x, 0, 0, b);
+        same(39, x.fetch(0, 0, 1, false), 3);
+        int lone = version(x, 1, 7, NONE, NONE);
+        badState(24, () -> x.replace(1, a, b));
+        same(24, x.replace(1, lone, b), NONE);
+        same(25, x.walk(1, lone, NONE), 1);
+        same(25, x.walk(1, b, NONE), 1);
+        same(25, x.walk(1, c, NONE), 2);
+        same(29, x.reach(1, lone), 3);
+        notWhole();
+    }
+
+    private static void notWhole() {
+        PackSpring x = new PackSpring();
+        int a = version(x, 0, 1, NONE, NONE);
+        x.sync(0);
+        int b = version(x, 0, 2, NONE, NONE);
+        same(16, x.crash(0, 4), 2);
+        same(13, x.where(0, b), 1);
+        is(22, x.isWhole(0, b), false);
+        badState(24, () -> x.replace(0, a, b));
+        badState(27, () -> x.choose(0, b));
+        x.expect(0, 0, NONE, b);
+        badState(19, () -> x.commit(0));
+        badArgument(19, () -> x.expect(0, 0, NONE, a));
+        same(24, x.replace(0, b, a), NONE);
+    }
+
+    private static void sweepEdges() {
+        PackSpring x = new PackSpring();
+        int c = content(x, 0, 1);
+        x.sync(0);
+        x.tick(15);
+        folder(x, 0, 0, c);
+        same(16, x.crash(0, 0), 1);
+        same(37, x.sweep(0), 1);
+        PackSpring y = new PackSpring();
+        int v = version(y, 0, 1, NONE, NONE);
+        moveTo(y, 0, 0, v);
+        y.tick(15);
+        moveTo(y, 0, 0, NONE);
+        y.tick(19);
+        same(37, y.sweep(0), 0);
+        y.tick(1);
+        same(37, y.sweep(0), 3);
+        PackSpring z = new PackSpring();
+        int w = version(z, 0, 1, NONE, NONE);
+        z.pack(0, 0, 0);
+        z.spoil(0, w);
+        z.spoil(0, w);
+        z.version(0, z.part(w, 0), 1, NONE, NONE);
+        same(37, z.sweep(0), 2);
+        same(37, z.where(0, w), 3);
+        same(12, z.read(0, w, 1), 1);
+    }
+
+    private static void sendEdges() {
+        PackSpring x = new PackSpring();
+        int a = version(x, 0, 1, NONE, NONE);
+        int b = version(x, 0, 2, a, NONE);
+        int top = version(x, 0, 3, b, a);
+        moveTo(x, 0, 0, top);
+        same(39, x.fetch(0, 0, 1, false), 3);
+        is(39, x.isShallow(1, top), true);
+        int more = version(x, 1, 4, top, NONE);
+        moveTo(x, 0, 0, NONE);
+        moveTo(x, 1, 0, more);
+        same(39, x.fetch(1, 0, 0, false), 6);
+        is(39, x.isShallow(0, top), true);
+        is(39, x.isShallow(0, more), false);
+        PackSpring y = new PackSpring();
+        int c = version(y, 0, 1, NONE, NONE);
+        int d = version(y, 0, 2, c, NONE);
+        moveTo(y, 0, 0, version(y, 0, 3, c, d));
+        same(39, y.fetch(0, 0, 2, false), 9);
+        promisedOnward();
+        spoiltBase();
+    }
+
+    /** A promised CONTENT that is not there is not sent on; once it was read, it is. */
+    private static void promisedOnward() {
+        PackSpring x = new PackSpring();
+        int v = version(x, 0, 1, NONE, NONE);
+        int c = x.part(x.part(v, 0), 1);
+        moveTo(x, 0, 0, v);
+        same(39, x.fetch(0, 0, 0, true), 2);
+        moveTo(x, 0, 0, NONE);
+        same(39, x.fetch(1, 0, 0, false), 3 - 1);
+        same(39, x.where(0, c), PackSpring.LOOSE);
+        moveTo(x, 0, 0, NONE);
+        x.tick(20);
+        same(39, x.sweep(0), 4);
+        same(39, x.where(0, c), 0);
+        same(39, x.fetch(1, 0, 0, false), 2);
+        same(39, x.where(0, c), PackSpring.PROMISED);
+        badState(12, () -> x.read(0, c, 0));
+        content(x, 1, 1, 1, 1);
+        moveTo(x, 0, 0, NONE);
+        same(39, x.fetch(1, 0, 0, false), 3);
+        same(39, x.where(0, c), PackSpring.PACKED + PackSpring.PROMISED);
+    }
+
+    /** What the other one has is no base if it has no good copy. */
+    private static void spoiltBase() {
+        PackSpring x = new PackSpring();
+        int old = content(x, 0, 1, 2, 3, 4, 5, 6, 7, 8);
+        int near = content(x, 0, 1, 2, 3, 4, 5, 6, 7, 9);
+        int v = x.version(0, folder(x, 0, 0, old), 1, NONE, NONE);
+        moveTo(x, 0, 0, v);
+        same(39, x.fetch(0, 0, 0, false), 3);
+        same(41, x.spoil(1, old), 0);
+        moveTo(x, 0, 1, x.version(0, folder(x, 0, 0, near), 2, NONE, NONE));
+        same(39, x.fetch(0, 1, 0, false), 3);
+        same(39, x.entries(1, 1), 3);
+        same(39, x.base(1, 1, 0), NONE);
     }
 }
