@@ -889,6 +889,11 @@ final class LineBounds {
             Scene s = row(2);
             s.fetch(0, 0, 0, false);
             s.move(0, 0, s.version(0, s.nth(0), 50, NONE, NONE));
+            for (int store = 0; store < 2; store++) {
+                s.choose(store, s.nth(1));
+                s.expect(store, 3, NONE, s.nth(1));
+                s.pin(store, s.nth(2));
+            }
             return s;
         }, s -> s.push(0, 0)));
         Trial.test(40, "onto a version beyond one that is shallow in the first store nothing is pushed",

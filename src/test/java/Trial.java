@@ -17,6 +17,8 @@ final class Trial {
     }
 
     private static final Map<Maker, List<String>> VIEWS = new IdentityHashMap<>();
+    private static final int PROMISES = 44;
+    private static final int[] TESTS = new int[PROMISES + 1];
     private static int passed = 0;
     private static int failed = 0;
 
@@ -24,6 +26,7 @@ final class Trial {
     }
 
     static void test(int promise, String sentence, Body body) {
+        TESTS[promise]++;
         try {
             body.run();
             passed++;
@@ -42,8 +45,14 @@ final class Trial {
         return "";
     }
 
-    /** Prints how many passed and failed; answers whether all passed. */
+    /** Prints how many passed and failed; answers whether all passed, and each promise has a test. */
     static boolean report() {
+        for (int promise = 1; promise <= PROMISES; promise++) {
+            if (TESTS[promise] == 0) {
+                failed++;
+                System.out.println("promise " + promise + " has no test");
+            }
+        }
         System.out.println(passed + " passed, " + failed + " failed");
         return failed == 0;
     }
@@ -77,8 +86,9 @@ final class Trial {
     }
 
     /** Each call, on a scene of its own, throws just this, and nothing that can be seen has changed by it. */
-    private static void refused(Class<?> due, Maker maker, Call[] calls) {
-        List<String> before = VIEWS.computeIfAbsent(maker, Views::of);
+    private static void refused(Class<?> due, Maker first, Call[] calls) {
+        Maker maker = () -> later(first.make());
+        List<String> before = VIEWS.computeIfAbsent(first, key -> Views.of(maker));
         for (int k = 0; k < calls.length; k++) {
             Call call = calls[k];
             Class<?> got = thrownBy(call, maker.make());
@@ -96,6 +106,12 @@ final class Trial {
                 }
             }
         }
+    }
+
+    /** Ticks pass ahead of the call, so that it can be seen if by it something was written last. */
+    private static Scene later(Scene s) {
+        s.tick(5);
+        return s;
     }
 
     private static Class<?> thrownBy(Call call, Scene s) {
