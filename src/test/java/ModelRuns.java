@@ -24,17 +24,20 @@ public final class ModelRuns {
     public static void main(String[] args) {
         int runs = args.length > 0 ? Integer.parseInt(args[0]) : 1500;
         int seed0 = args.length > 1 ? Integer.parseInt(args[1]) : 0;
-        int wrong = 0;
+        int passed = 0;
+        int failed = 0;
         Map<String, Integer> answers = new TreeMap<>();
-        for (int seed = seed0; seed < seed0 + runs && wrong < 5; seed++) {
-            wrong += new Player(seed, answers).play() ? 0 : 1;
+        for (int seed = seed0; seed < seed0 + runs && failed < 5; seed++) {
+            boolean isRight = new Player(seed, answers).play();
+            passed += isRight ? 1 : 0;
+            failed += isRight ? 0 : 1;
         }
         if (args.length > 2) {
             System.out.println(answers);
         }
-        wrong += lacking(answers);
-        System.out.println(wrong == 0 ? "all answers are the model's" : wrong + " runs or kinds of answers are wrong");
-        if (wrong != 0) {
+        failed += lacking(answers);
+        System.out.println(passed + " passed, " + failed + " failed");
+        if (failed != 0) {
             System.exit(1);
         }
     }
